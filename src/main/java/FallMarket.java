@@ -440,7 +440,7 @@ public final class FallMarket {
             clock.passHour(text, ahead, text.seed);
             int left = ahead.bits(HANGING, text.fruits);
             if (left == 0) {
-                return what == 0 ? highestBit(hanging) : behind;
+                return what == 0 ? highestFruit(hanging) : behind;
             }
             hanging = left;
         }
@@ -661,8 +661,13 @@ public final class FallMarket {
         return Math.max(least, Math.min(most, n));
     }
 
-    private static int highestBit(int bits) {
-        return 31 - Integer.numberOfLeadingZeros(bits);
+    private static int highestFruit(int bits) {
+        for (int fruit = MAX_FRUIT - 1; fruit >= 0; fruit--) {
+            if ((bits >> fruit & 1) == 1) {
+                return fruit;
+            }
+        }
+        return NOT_SO;
     }
 
     private static int commonDivisor(int a, int b) {

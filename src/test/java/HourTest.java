@@ -226,6 +226,7 @@ public final class HourTest {
             }
         }
         Check.due("coins are not asked for fines", 0, m.count(15));
+        foundVars();
         Check.due("shake(2)", -1, m.shake(2));
         Check.due("shake(-1)", -1, m.shake(-1));
         m = Check.of("fruit a 4 1 1; falls = shaken * 100;");
@@ -235,6 +236,20 @@ public final class HourTest {
         Check.due("shaken down", 1, m.fruit(0, 3));
         Check.due("shaken no more", 0, m.fruit(0, 7));
         Check.due("none hangs propped", 0, m.count(16));
+    }
+
+    /** Of all vars, FOUND knows the hour, how much is left, how often all was shaken, and the wind. */
+    private static void foundVars() {
+        String[] vars = {"ripe", "high", "hour", "blows", "across", "shaken", "propped", "lay", "left"};
+        int[] known = {0, 0, 3, 5, 0, 2, 0, 0, 2};
+        for (int i = 0; i < vars.length; i++) {
+            FallMarket m = Check.of("fruit a 4 6 7; fruit b 1 1 1; wind = 5; falls = 0; found = if " + vars[i] + " < " + known[i]
+                + " then 0 else if " + known[i] + " < " + vars[i] + " then 0 else 100;");
+            m.hours(3);
+            m.prop(0, true);
+            m.shake(1);
+            Check.due("found by " + vars[i], 1, m.shake(0));
+        }
     }
 
     private static void counts() {

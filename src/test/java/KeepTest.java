@@ -7,6 +7,7 @@ public final class KeepTest {
         undo();
         atMost();
         slots();
+        lying();
         Check.end("KeepTest");
     }
 
@@ -86,6 +87,23 @@ public final class KeepTest {
         Check.due("goes on", 1, m.count(9));
         Check.due("undo", true, m.undo());
         Check.due("hour", 60, m.count(2));
+    }
+
+    /** Where it lies comes back too, though it has fallen elsewhere meanwhile. */
+    private static void lying() {
+        FallMarket m = Check.of("fruit a 2 1 1; falls = if shaken < 1 then 0 else 100; bounces = hour;");
+        m.hold(0);
+        m.shake(0);
+        m.hours(1);
+        m.hold(1);
+        Check.due("lies", 2, m.fruit(0, 0));
+        m.restore(0);
+        m.hours(4);
+        m.shake(0);
+        m.hours(1);
+        Check.due("lies elsewhere", 6, m.fruit(0, 0));
+        m.restore(1);
+        Check.due("lies again", 2, m.fruit(0, 0));
     }
 
     private static void slots() {

@@ -144,6 +144,11 @@ public final class TextTest {
         Check.fault("wind=(((((((1)))))));", 2, 11);
         Check.fault("wind=((((((1))))))+((((((1))))));", 0, -1);
         Check.fault("wind=(((((()(", 1, 11);
+        Check.fault("wind=if((((((1))))))<((((((1))))))then((((((1))))))else((((((1))))));", 0, -1);
+        Check.fault("wind=if(((((((1)))))))<1then1else1;", 2, 13);
+        Check.fault("wind=if 1<(((((((1)))))))then1else1;", 2, 16);
+        Check.fault("wind=if 1<1then(((((((1)))))))else1;", 2, 21);
+        Check.fault("wind=if 1<1then1else(((((((1)))))));", 2, 26);
         String most = "seed 1;".repeat(133);
         Check.fault(most, 0, -1);
         Check.fault(most + "seed", 1, most.length() + 4);
@@ -170,6 +175,13 @@ public final class TextTest {
         Check.fault("fruit a 1 1 1; fruit a 1 0 1;", 3, 21);
         Check.fault("fruit a 1 0 1; fruit a 1 1 1;", 5, 10);
         Check.fault("fruit a 1 1 1; fruit a 1 1 1; x", 1, 30);
+        String many = "";
+        for (int i = 0; i < 11; i++) {
+            many += (i < 7 ? "fruit " : "buyer ") + (char) ('a' + i) + " 1 1 1;";
+            if (i < 6 || i > 6 && i < 10) {
+                Check.fault(many + (i < 7 ? "fruit " : "buyer ") + (char) ('a' + i) + " 1 1 1;", 3, many.length() + 6);
+            }
+        }
     }
 
     private static void numbers() {
@@ -240,5 +252,14 @@ public final class TextTest {
         Check.due("undo", false, m.undo());
         Check.due("read of nothing", 0, m.read());
         Check.due("no fruit", 0, m.count(0));
+        // Nothing of the texts ahead is left, however many there were.
+        for (int n = 0; n < 100; n++) {
+            Check.type(m, "fruit a 1 1 1; worth = if 1 < 2 then 1 + 2 + 3 + 4 + 5 + " + n % 50 + " else 1 * 1 * 1 * 1;");
+            Check.due("read " + n, 0, m.read());
+            Check.due("worth " + n, 15 + n % 50, m.tells(0, 2));
+            Check.type(m, "fruit a 1 1 1; worth = 7; fruit a 1 1 1;");
+            Check.due("read of twice " + n, 3, m.read());
+            Check.due("worth " + n, 15 + n % 50, m.tells(0, 2));
+        }
     }
 }

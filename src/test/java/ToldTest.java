@@ -90,5 +90,10 @@ public final class ToldTest {
         Check.due("sure(2, 0)", 0, m.sure(2, 0));
         Check.due("sure(2, 1)", 1, m.sure(2, 1));
         Check.due("told stays", 2, m.count(10));
+        m = Check.of("fruit a 1 2 1; fruit b 3 2 2; bounces = across;");
+        m.tell(2, 2);
+        m.tell(2, 6);
+        Check.due("each by its own x", 1, m.rows(2));
+        Check.due("sure(2, 1)", 1, m.sure(2, 1));
     }
 }
