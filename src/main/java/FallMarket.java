@@ -726,8 +726,8 @@ public final class FallMarket {
             emit(ANSWER);
         }
 
-        static int varCell(int var) {
-            return -1 - var;
+        static int varCell(int number) {
+            return -1 - number;
         }
 
         void emit(int cell) {
@@ -1044,9 +1044,9 @@ public final class FallMarket {
                 return take(kind);
             }
             if (kind >= WORD_RIPE && kind <= WORD_LEFT) {
-                int var = kind - WORD_RIPE;
+                int asked = kind - WORD_RIPE;
                 // A var that is not told for the law is 0 in it, and so is put as a plain 0.
-                into.emit((TOLD_VARS[law] >> var & 1) == 1 ? Text.varCell(var) : 0);
+                into.emit((TOLD_VARS[law] >> asked & 1) == 1 ? Text.varCell(asked) : 0);
                 return take(kind);
             }
             if (kind != '(') {
