@@ -1,4 +1,7 @@
-/** What the tests share: answers that are due, and texts put on the tape. */
+import java.util.function.Consumer;
+import java.util.function.Supplier;
+
+/** What the tests share: answers that are due, texts put on the tape, and calls after which nothing has changed. */
 final class Check {
     private static int wrong = 0;
     private static int asked = 0;
@@ -52,6 +55,81 @@ final class Check {
         due("fault of [" + text + "]", number, market.read());
         due("place in [" + text + "]", place, market.place());
         due("tape behind [" + text + "]", 0, market.count(8));
+    }
+
+    /** All that can be seen but for the latest fault and what would be: some 60 calls, and 12 for each fruit. */
+    static String seen(FallMarket m) {
+        StringBuilder all = new StringBuilder("counts");
+        for (int what = 0; what <= 18; what++) {
+            all.append(' ').append(m.count(what));
+        }
+        for (int i = 0; i < m.count(0); i++) {
+            all.append(", fruit ").append(i);
+            for (int what = 0; what < 8; what++) {
+                all.append(' ').append(m.fruit(i, what));
+            }
+            for (int what = 0; what < 4; what++) {
+                all.append(' ').append(m.tells(i, what));
+            }
+        }
+        for (int i = 0; i < m.count(1); i++) {
+            all.append(", buyer ").append(i);
+            for (int what = 0; what < 4; what++) {
+                all.append(' ').append(m.buyer(i, what));
+            }
+        }
+        for (int k = 0; k <= m.count(10); k++) {
+            all.append(", rows ").append(m.rows(k)).append(' ').append(m.ask(k)).append(' ').append(m.sure(k, 0));
+        }
+        return all.toString();
+    }
+
+    static void same(String name, FallMarket want, FallMarket got) {
+        String due = seen(want);
+        String is = seen(got);
+        asked++;
+        if (!is.equals(due)) {
+            wrong++;
+            System.out.println(name + " is seen as\n  " + is + "\n  due is\n  " + due);
+        }
+    }
+
+    /**
+     * Two objects come to the same point, one of them is called in vain: nothing tells them apart then, neither
+     * by what is seen, nor by what is undone, nor by what is held, nor by the tape. Each look is at new objects,
+     * so that none is called more than 512 times.
+     */
+    static void inVain(String name, Supplier<FallMarket> made, Consumer<FallMarket> calls) {
+        lookAlike(name, made, calls, m -> { });
+        for (int n = 1; n <= 3; n++) {
+            int times = n;
+            lookAlike(name + ", " + n + " undone", made, calls, m -> {
+                for (int i = 0; i < times; i++) {
+                    m.undo();
+                }
+            });
+        }
+        lookAlike(name + ", all undone", made, calls, m -> {
+            for (int i = 0; i < 41; i++) {
+                m.undo();
+            }
+        });
+        for (int slot = 0; slot < 3; slot++) {
+            int held = slot;
+            lookAlike(name + ", slot " + slot + " restored", made, calls, m -> m.restore(held));
+        }
+        lookAlike(name + ", an hour later", made, calls, m -> m.hours(1));
+        lookAlike(name + ", the tape read", made, calls, m -> m.read());
+    }
+
+    private static void lookAlike(String name, Supplier<FallMarket> made, Consumer<FallMarket> calls, Consumer<FallMarket> look) {
+        FallMarket left = made.get();
+        FallMarket called = made.get();
+        calls.accept(called);
+        look.accept(left);
+        look.accept(called);
+        due(name + ": place()", left.place(), called.place());
+        same(name, left, called);
     }
 
     static void end(String name) {
