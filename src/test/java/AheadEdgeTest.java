@@ -34,6 +34,8 @@ public final class AheadEdgeTest {
         passesOfNoSuch();
         nextFirstOfAlike();
         inHoursFrom0To60();
+        inHoursFromHowItIs();
+        inHoursFirstOfAll();
         inHoursOfNoSuch();
         lastIn200();
         asleepFrom0();
@@ -187,8 +189,15 @@ public final class AheadEdgeTest {
         Check.due("lies", 1, m.fruit(0, 3));
         Check.due("what lies is not caught", 0, m.mean(0, 1, 4));
         m = Check.of("fruit a 1 1 5; buyer b 1 0 99; falls=100;");
+        Check.due("will be caught", 500, m.mean(0, 1, 1));
         m.hours(1);
-        Check.due("what is sold is not caught again", 0, m.mean(0, 1, 4));
+        Check.due("what is sold is not caught again", 0, m.mean(0, 1, 1));
+        Check.due("nor in four hours", 0, m.mean(0, 1, 4));
+        Check.due("nowhere to stand", 0, m.stand(0, 1, 0));
+        Check.due("for nothing", 0, m.stand(0, 1, 1));
+        m = Check.of("fruit a 1 1 5; buyer b 9 0 99; falls=100;");
+        m.hours(1);
+        Check.due("what lies is not caught, first of all", 0, m.mean(0, 1, 1));
         m = Check.of("fruit a 1 1 5; buyer b 1 0 99; falls=shaken*10+propped*5; worth=10;");
         m.shake(0);
         m.prop(0, true);
@@ -506,6 +515,56 @@ public final class AheadEdgeTest {
         Check.due("much of a new object", 0, new FallMarket().much(60, 0));
     }
 
+    /** It goes on from how it is now: propped, shaken, lying, sold, and who stands where. */
+    private static void inHoursFromHowItIs() {
+        FallMarket m = Check.of("fruit a 1 1 5; fruit b 2 1 5; fruit c 3 1 5; falls=if 0<shaken then 100 else propped*100;");
+        m.shake(0);
+        m.prop(1, true);
+        int[] due = {1, 1, 0};
+        for (int i = 0; i < 3; i++) {
+            Check.due("then(" + i + ", 1, 0)", due[i], m.then(i, 1, 0));
+        }
+        Check.due("much(1, 1)", 2, m.much(1, 1));
+        last("propped, shaken, and one that hangs on", m, -2, -2);
+        m.prop(2, true);
+        last("all fall", m, 2, 1);
+        m = Check.of("fruit a 1 1 5; buyer b 9 0 5; buyer c 9 0 5; falls=100; bounces=3; keeps 1;");
+        m.hours(1);
+        Check.due("nobody stands there", 3, m.then(0, 2, 0));
+        m.go(1, 4);
+        Check.due("it lies at 4", 2, m.then(0, 1, 0));
+        Check.due("bought by", 1, m.then(0, 1, 1));
+        Check.due("paid", 5, m.paid(1, 1));
+        Check.due("paid by the other", 0, m.paid(0, 1));
+        Check.due("asleep", 1, m.asleep());
+        Check.due("year", 20, m.year(1, 0, 1, 20));
+        m.go(1, 5);
+        Check.due("not at 5", 1, m.then(0, 1, 0));
+        m.hours(1);
+        Check.due("has lain once, rotten next", 3, m.then(0, 1, 0));
+        m.go(1, 4);
+        Check.due("or bought", 2, m.then(0, 1, 0));
+    }
+
+    /** Each asked of a new object first of all, for other hours than the one ahead. */
+    private static void inHoursFirstOfAll() {
+        String text = "fruit a 1 1 5; fruit b 1 1 5; buyer c 1 0 9; falls=if hour<2 then 0 else 100; ripens=0; keeps 1;";
+        Check.due("paid(0, 3)", 5, Check.of(text).paid(0, 3));
+        Check.due("paid(0, 2)", 0, Check.of(text).paid(0, 2));
+        Check.due("much(2, 0)", 2, Check.of(text).much(2, 0));
+        Check.due("much(3, 1)", 1, Check.of(text).much(3, 1));
+        Check.due("much(5, 3)", 1, Check.of(text).much(5, 3));
+        Check.due("then(0, 3, 1)", 0, Check.of(text).then(0, 3, 1));
+        Check.due("then(1, 3, 1)", -2, Check.of(text).then(1, 3, 1));
+        FallMarket m = Check.of(text);
+        Check.due("then in 5", 3, m.then(1, 5, 0));
+        Check.due("paid in 2, behind it", 0, m.paid(0, 2));
+        Check.due("paid in 3, behind it", 5, m.paid(0, 3));
+        Check.due("much in 2, behind it", 0, m.much(2, 1));
+        Check.due("much in 3, behind it", 1, m.much(3, 2));
+        Check.due("then in 0, behind it", 0, m.then(1, 0, 0));
+    }
+
     private static void inHoursOfNoSuch() {
         FallMarket m = Check.of("fruit a 1 1 5; buyer b 1 1 5;");
         int[] ns = {LEAST, -1, 61, 62, GREATEST};
@@ -546,6 +605,12 @@ public final class AheadEdgeTest {
         last("the first by number", Check.of("fruit a 1 2 1; fruit b 1 1 1; falls=if hour<high then 0 else 100;"), 0, 3);
         last("the first two", Check.of("fruit a 1 2 1; fruit b 1 2 1; fruit c 1 1 1; falls=if hour<high then 0 else 100;"), 1, 3);
         last("no fruit", new FallMarket(), -2, -2);
+        String seven = "";
+        for (int i = 0; i < 7; i++) {
+            seven += "fruit " + (char) ('a' + i) + " 1 1 " + i + ";";
+            last("of " + (i + 1), Check.of(seven + "falls=100;"), i, 1);
+            last("one by one, " + (i + 1), Check.of(seven + "ripens=0; falls=if hour<ripe then 0 else 100;"), i, i + 1);
+        }
         FallMarket m = Check.of("fruit a 1 1 1; fruit b 1 1 1; falls=if hour<200 then 0 else 100;");
         m.hours(1);
         last("200 from then", m, 1, 200);

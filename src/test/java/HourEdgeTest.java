@@ -30,6 +30,7 @@ public final class HourEdgeTest {
         hoursUpTo48();
         undoneUpTo40();
         undoneIsNoThingDone();
+        undoneAndHeldAsItWas();
         slots();
         slotsKeepNeitherToldNorTape();
         fruitSeen();
@@ -467,6 +468,55 @@ public final class HourEdgeTest {
         Check.due("no more", false, m.undo());
     }
 
+    /** All that goes on comes back, when none of it is 0 any more: what was found out, how long each has lain. */
+    private static void undoneAndHeldAsItWas() {
+        for (int way = 0; way < 2; way++) {
+            FallMarket m = Check.of("fruit a 1 1 0; fruit b 2 2 0; fruit c 3 2 0; buyer d 9 0 50; buyer e 8 0 60; keeps 9; fine 7; found=100; "
+                + "falls=if high<2 then 0 else 100; bounces=high; worth=3;");
+            m.shake(0);
+            m.shake(0);
+            m.go(1, 5);
+            m.hours(3);
+            m.prop(0, true);
+            m.shake(0);
+            String was = Check.seen(m);
+            int can = m.count(9);
+            m.hold(0);
+            m.shake(0);
+            m.prop(0, false);
+            m.go(0, 4);
+            m.hours(2);
+            if (way == 0) {
+                for (int n = 0; n < 4; n++) {
+                    m.undo();
+                }
+            } else {
+                m.restore(0);
+            }
+            String name = way == 0 ? "undone" : "restored";
+            Check.due(name + ": things that can be undone", way == 0 ? can : 0, m.count(9));
+            Check.due(name + ": found out", 3, m.count(13));
+            Check.due(name + ": shakes", 3, m.count(12));
+            Check.due(name + ": b has lain", 2, m.fruit(1, 5));
+            Check.due(name + ": b lies at", 4, m.fruit(1, 0));
+            Check.due(name + ": c was bought", 1, m.fruit(2, 4));
+            Check.due(name + ": coins", 57, m.buyer(1, 2));
+            Check.due(name + ": stands", 9, m.buyer(0, 0));
+            Check.due(name + ": propped", 1, m.fruit(0, 6));
+            Check.due(name + ": shaken", 1, m.fruit(0, 7));
+            Check.due(name + ": ripe", 3, m.fruit(0, 2));
+            Check.due(name + ": all is seen as it was", true, going(Check.seen(m)).equals(going(was)));
+        }
+    }
+
+    /** What is seen but for how much can be undone and how many slots hold something. */
+    private static String going(String seen) {
+        String[] words = seen.split(" ");
+        words[10] = "";
+        words[12] = "";
+        return String.join(" ", words);
+    }
+
     /** "a SLOT (0 .. 2): true; false: no such one"; "that stays there; nothing can be undone then". */
     private static void slots() {
         FallMarket m = Check.of("fruit a 1 1 0; falls=0;");
@@ -576,6 +626,16 @@ public final class HourEdgeTest {
 
     /** catcher: "-2: nobody; hanging or not, as if it hung". */
     private static void catcherAsIfItHung() {
+        // Each asked of a new object first, and behind another fruit, in another hour.
+        String text = "fruit a 2 9 5; fruit b 8 1 90; buyer c 2 0 20; buyer d 8 0 20; falls=0; worth=ripe+hour*high/3;";
+        Check.due("first of all, b", -2, Check.of(text).catcher(1));
+        Check.due("first of all, a", 0, Check.of(text).catcher(0));
+        FallMarket both = Check.of(text);
+        Check.due("a", 0, both.catcher(0));
+        Check.due("b behind a", -2, both.catcher(1));
+        Check.due("a behind b", 0, both.catcher(0));
+        both.hours(5);
+        Check.due("a, worth 25 by then", -2, both.catcher(0));
         FallMarket m = Check.of("fruit a 2 1 5; fruit b 8 1 5; buyer d 5 0 9; falls=100; bounces=9; worth=5+lay; keeps 1;");
         Check.due("nobody near", -2, m.catcher(0));
         m.hours(3);

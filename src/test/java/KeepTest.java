@@ -42,24 +42,33 @@ public final class KeepTest {
         }
     }
 
-    private static void undo() {
+    /** Only steps that do something: how many of them the first n are. */
+    private static FallMarket stepped(int n) {
         FallMarket m = Check.of(TEXT);
-        String[] was = new String[60];
         int done = 0;
-        for (int n = 0; n < 30; n++) {
-            String ahead = seen(m);
+        for (int i = 0; i < 100 && done < n; i++) {
             int could = m.count(9);
-            step(m, n);
-            if (m.count(9) > could) {
-                was[done] = ahead;
-                done++;
-            }
+            step(m, i);
+            done += m.count(9) > could ? 1 : 0;
         }
-        Check.due("things done", done, m.count(9));
+        Check.due("things done", n, m.count(9));
+        return m;
+    }
+
+    /** A new object for each look, so that none is called more than 512 times. */
+    private static void undo() {
+        int done = 24;
         for (int n = done - 1; n >= 0; n--) {
-            Check.due("undo " + n, true, m.undo());
-            Check.due("as it was " + n, true, seen(m).equals(was[n]));
+            FallMarket m = stepped(done);
+            for (int i = n; i < done; i++) {
+                Check.due("undo " + i, true, m.undo());
+            }
+            Check.due("as it was " + n, true, seen(m).equals(seen(stepped(n))));
             Check.due("left to be undone", n, m.count(9));
+        }
+        FallMarket m = stepped(done);
+        for (int i = 0; i < done; i++) {
+            m.undo();
         }
         Check.due("undo", false, m.undo());
         m.tell(1, 1);

@@ -45,6 +45,7 @@ public final class TextEdgeTest {
         hardAheadOfSoft();
         faultChangesNothing();
         newTextChangesAll();
+        textsInTurn();
         placeOfTheLatest();
         lawsNotTold();
         Check.end("TextEdgeTest");
@@ -553,7 +554,9 @@ public final class TextEdgeTest {
         FallMarket m = Check.of("fruit a 3 4 50; fruit b 7 2 20; buyer c 3 1 90; buyer d 9 0 5; falls = ripe + shaken * 50; keeps 1; "
             + "seed 4; fine 5; found = 60; bounces = high - 3; wind = hour;");
         m.hours(2);
+        m.hold(0);
         m.hold(1);
+        m.hold(2);
         m.shake(1);
         m.prop(1, true);
         m.go(1, 4);
@@ -587,6 +590,44 @@ public final class TextEdgeTest {
         Check.same("nothing in place of a text", new FallMarket(), m);
     }
 
+    /** Of all texts ahead nothing is left, however many they were: each is seen as in a new object. */
+    private static void textsInTurn() {
+        String laws = "wind=7; ripens=5; falls=40; worth=30; bounces=4; found=100; fine 50; keeps 3; seed 77;";
+        String[] texts = {SEVEN + FOUR + laws, "fruit a 2 2 2; fruit b 3 3 3;", "", "buyer a 1 1 1;", "fruit a 1 1 1; buyer b 8 0 9;",
+            "seed 5; fruit a 1 1 1;", "falls=if 1<2 then 3 else 4; fruit a 1 1 1; fruit c 2 2 2;", "fine 99;", laws, FOUR, SEVEN};
+        for (int from = 0; from < texts.length; from++) {
+            for (int first = 0; first < texts.length; first += 2) {
+                FallMarket m = Check.of(texts[first]);
+                usedUp(m);
+                for (int n = 0; n < 3; n++) {
+                    String text = texts[(from + n) % texts.length];
+                    Check.type(m, text);
+                    Check.due("read", 0, m.read());
+                    Check.due("place", -1, m.place());
+                }
+                FallMarket anew = Check.of(texts[(from + 2) % texts.length]);
+                Check.same("text " + (from + 2) + " behind others", anew, m);
+                Check.due("slots", 0, m.count(11));
+                Check.due("shake", anew.shake(0), m.shake(0));
+                Check.due("fines", anew.count(14), m.count(14));
+                Check.due("hours(9)", anew.hours(9), m.hours(9));
+                Check.same("nine hours of text " + (from + 2) + " behind others", anew, m);
+            }
+        }
+    }
+
+    /** Things done, told and held, as many as can be. */
+    private static void usedUp(FallMarket m) {
+        for (int i = 0; i < 7; i++) {
+            m.tell(1, 1);
+            m.hours(i % 2);
+            m.prop(i, true);
+            m.go(i, i);
+            m.shake(i);
+            m.hold(i);
+        }
+    }
+
     /** "The byte of the latest read()'s FAULT; NONE without." */
     private static void placeOfTheLatest() {
         FallMarket m = new FallMarket();
@@ -601,6 +642,20 @@ public final class TextEdgeTest {
         Check.due("place 0", 0, m.place());
         Check.due("read of none", 0, m.read());
         Check.due("none", -1, m.place());
+        String[] faulty = {"seed ?;", SEVEN + "fruit", "fruit a 1 1 1; fruit a 1 1 1;", "fine 100;"};
+        int[] numbers = {1, 2, 3, 5};
+        int[] places = {5, SEVEN.length(), 21, 5};
+        for (int i = 0; i < faulty.length; i++) {
+            Check.type(m, faulty[i]);
+            Check.due("read", numbers[i], m.read());
+            Check.due("place", places[i], m.place());
+            Check.type(m, "fruit a 1 1 1;");
+            Check.due("read", 0, m.read());
+            Check.due("none behind a fault " + numbers[i], -1, m.place());
+            Check.type(m, faulty[(i + 1) % 4]);
+            m.read();
+            Check.due("place of another", places[(i + 1) % 4], m.place());
+        }
     }
 
     /** "WIND (0), RIPENS (1), FALLS (ripe), WORTH (ripe), BOUNCES (0), FOUND (0), if not told; the last one." */
@@ -617,6 +672,8 @@ public final class TextEdgeTest {
         for (int n = 0; n < 40; n++) {
             Check.due("not found", 0, m.shake(1));
         }
+        // By seed 68 the first lot of a shake is 0.
+        Check.due("not found by lot 0", 0, Check.of("fruit a 5 4 9; seed 68;").shake(0));
         m = Check.of("wind=1;wind=2;ripens=3;ripens=4;falls=5;falls=6;worth=7;worth=8;bounces=1;bounces=2;found=0;found=100;fruit a 5 4 9;");
         Check.due("the last wind", 2, m.count(3));
         Check.due("the last falls", 6, m.tells(0, 0));

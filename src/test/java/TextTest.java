@@ -254,6 +254,8 @@ public final class TextTest {
         Check.due("no fruit", 0, m.count(0));
         // Nothing of the texts ahead is left, however many there were.
         for (int n = 0; n < 100; n++) {
+            // An object is used for at most 512 calls: some 20 rounds.
+            m = n % 20 == 0 ? new FallMarket() : m;
             Check.type(m, "fruit a 1 1 1; worth = if 1 < 2 then 1 + 2 + 3 + 4 + 5 + " + n % 50 + " else 1 * 1 * 1 * 1;");
             Check.due("read " + n, 0, m.read());
             Check.due("worth " + n, 15 + n % 50, m.tells(0, 2));
