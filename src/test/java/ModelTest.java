@@ -12,7 +12,10 @@ public final class ModelTest {
         "year b f 60 20", "tell 9 x", "tell t x", "forget", "rows 7", "sure 7 7", "ask 7", "hold 2", "restore 2", "count 18", "count 18",
         "place", "back 3", "go b x", "prop f 1", "shake f", "hours 1", "hours 2", "undo"};
 
+    private static final int MOST_CALLS = 512;
+
     private final Random random;
+    private int calls = 0;
     private final FallMarket market = new FallMarket();
     private final Model model = new Model();
 
@@ -29,32 +32,27 @@ public final class ModelTest {
     }
 
     private void go(int run) {
-        int calls = 0;
-        while (calls < 512) {
-            String text = random.nextInt(4) == 0 ? broken(text()) : text();
-            calls += put(run, text);
+        while (calls < MOST_CALLS) {
+            put(run, random.nextInt(4) == 0 ? broken(text()) : text());
             int stay = random.nextInt(200);
-            for (int n = 0; n < stay && calls < 512; n++, calls++) {
+            for (int n = 0; n < stay && calls < MOST_CALLS; n++) {
                 one(run, CALLS[random.nextInt(CALLS.length)]);
             }
         }
     }
 
-    private int put(int run, String whole) {
+    private void put(int run, String whole) {
         String text = whole.length() > 2000 ? whole.substring(0, 2000) : whole;
         same(run, "back", model.call("count", 8));
         int padding = (20 - text.length() % 20) % 20;
         String padded = text + " ".repeat(padding);
-        int calls = 4;
         for (int at = 0; at < padded.length(); at += 20) {
             same(run, "feed", Check.four(padded, at), Check.four(padded, at + 4), Check.four(padded, at + 8), Check.four(padded, at + 12),
                 Check.four(padded, at + 16));
-            calls++;
         }
         same(run, "back", padding);
         same(run, "read");
         same(run, "place");
-        return calls;
     }
 
     private void one(int run, String told) {
@@ -81,6 +79,11 @@ public final class ModelTest {
     }
 
     private void same(int run, String name, int... a) {
+        // Behind so many calls answers are free.
+        if (calls == MOST_CALLS) {
+            return;
+        }
+        calls++;
         if ((name.equals("prop") || name.equals("hangsOn") || name.equals("next")) && a[a.length - 1] != 1) {
             a[a.length - 1] = 0;
         }
